@@ -6,17 +6,6 @@ public final class ChangesTest {
     private ChangesTest() {
     }
 
-    /** Links 0 and 1 with 100 and 60; flow 0 over both, 1 over 0, 2 (weight 2) over 1. */
-    static FairRates three() {
-        FairRates x = new FairRates();
-        x.link(0, 100);
-        x.link(1, 60);
-        x.come(7, 3, 1, 0, 1000);
-        x.come(8, 1, 1, 0, 1000);
-        x.come(9, 2, 2, 0, 1000);
-        return x;
-    }
-
     private static void refusals(String where, FairRates x, int... due) {
         for (int why = 0; why < due.length; why++) {
             Due.same(where + ": refused by " + why, x.count(6 + why), due[why]);
@@ -113,7 +102,7 @@ public final class ChangesTest {
     }
 
     private static void p04Go() {
-        FairRates x = three();
+        FairRates x = Nets.three();
         x.hold(1, true);
         x.hop(1);
         x.rounds(5);
@@ -134,7 +123,7 @@ public final class ChangesTest {
         Due.same("4: behind begins anew", x.known(1, 0, 1), 1_000_000);
         Due.same("4: held begins anew", x.flow(1, 6), 0);
         Due.same("4: its letter begins anew", x.hop(1), 0);
-        FairRates y = three();
+        FairRates y = Nets.three();
         y.rounds(5);
         y.go(0);
         Due.same("4: come after go", y.come(7, 3, 1, 0, 1000), 0);
@@ -145,7 +134,7 @@ public final class ChangesTest {
     }
 
     private static void p05Change() {
-        FairRates x = three();
+        FairRates x = Nets.three();
         Due.same("5: weight", x.change(0, 0, 9), 1);
         Due.same("5: weight is", x.flow(0, 2), 9);
         Due.same("5: own goes by it", x.flow(0, 5), 111);
@@ -196,7 +185,7 @@ public final class ChangesTest {
     }
 
     private static void p06Hold() {
-        FairRates x = three();
+        FairRates x = Nets.three();
         Due.same("6: one", x.hold(1, true), 1);
         Due.same("6: two", x.hold(2, true), 2);
         Due.same("6: is held", x.flow(2, 6), 1);
@@ -217,7 +206,7 @@ public final class ChangesTest {
     }
 
     private static void p07Route() {
-        FairRates x = three();
+        FairRates x = Nets.three();
         x.link(2, 1000);
         x.link(9, 5);
         x.rounds(9);
@@ -257,7 +246,7 @@ public final class ChangesTest {
     }
 
     private static void p08Lose() {
-        FairRates x = three();
+        FairRates x = Nets.three();
         Due.same("8: none were", x.lose(1, 2), 0);
         Due.same("8: two were", x.lose(1, 99), 2);
         Due.same("8: the same number is fine", x.lose(1, 99), 99);
@@ -344,7 +333,7 @@ public final class ChangesTest {
     }
 
     private static void p10Letter() {
-        FairRates x = three();
+        FairRates x = Nets.three();
         Due.same("10: told", x.letter(0), 20);
         Due.same("10: ahead 0", x.known(0, 0, 0), 1000);
         Due.same("10: ahead 1", x.known(0, 1, 0), 50);
@@ -373,7 +362,7 @@ public final class ChangesTest {
     }
 
     private static void p11Rounds() {
-        FairRates x = three();
+        FairRates x = Nets.three();
         Due.same("11: till a quiet one", x.rounds(30), 3);
         Due.same("11: told", x.flow(0, 7) * 10_000 + x.flow(1, 7) * 100 + x.flow(2, 7), 208_020);
         Due.same("11: rounds", x.count(4), 3);
@@ -390,13 +379,13 @@ public final class ChangesTest {
         FairRates y = new FairRates();
         Due.same("11: without flows", y.rounds(30), 1);
         Due.same("11: that counts", y.count(4), 1);
-        FairRates z = three();
+        FairRates z = Nets.three();
         z.hold(0, true);
         z.hold(1, true);
         z.hold(2, true);
         Due.same("11: all held", z.rounds(5), 1);
         Due.same("11: no letters", z.count(3), 0);
-        FairRates w = three();
+        FairRates w = Nets.three();
         w.rounds(9);
         w.lose(0, 2);
         Due.same("11: lost ones that tell nothing new are quiet", w.rounds(9), 1);
@@ -404,7 +393,7 @@ public final class ChangesTest {
     }
 
     private static void p12Forget() {
-        FairRates x = three();
+        FairRates x = Nets.three();
         x.rounds(9);
         x.hop(0);
         x.hold(2, true);
@@ -428,7 +417,7 @@ public final class ChangesTest {
     }
 
     private static void p13Keep() {
-        FairRates x = three();
+        FairRates x = Nets.three();
         Due.yes("13: 0", x.keep(0));
         Due.yes("13: 1", x.keep(1));
         Due.no("13: 2", x.keep(2));
@@ -444,7 +433,7 @@ public final class ChangesTest {
     }
 
     private static void p14Again() {
-        FairRates x = three();
+        FairRates x = Nets.three();
         Due.no("14: nothing kept", x.again(1));
         Due.no("14: 2", x.again(2));
         Due.no("14: -1", x.again(-1));
