@@ -330,6 +330,31 @@ public final class ChangesTest {
         x.lose(8, 9);
         Due.same("9: on the way back nothing is lost", x.hop(0), 28);
         Due.same("9: nor counted down", x.count(13), 9);
+        hopOverTheFirstTwo();
+    }
+
+    private static void hopOverTheFirstTwo() {
+        FairRates x = Nets.three();
+        Due.same("9: link 0", x.hop(0), 0);
+        Due.same("9: link 1", x.hop(0), 1);
+        Due.same("9: back at 1", x.hop(0), 21);
+        Due.same("9: bears 1,000,000 there", x.known(0, 1, 1), 1_000_000);
+        Due.same("9: still under way", x.count(12), 1);
+        Due.same("9: back at 0", x.hop(0), 20);
+        Due.same("9: with what 1 advertised", x.known(0, 0, 1), 20);
+        Due.same("9: at rest", x.count(12), 0);
+        Due.same("9: as a whole letter", x.booked(0) + x.booked(1), 40);
+        x.hop(0);
+        x.link(0, 30);
+        Due.same("9: bears what link 0 advertised then", x.hop(0) + x.known(0, 1, 0), 81);
+        Due.same("9: what changes meanwhile counts where it comes to", x.hop(0) * 100 + x.hop(0), 2120);
+        x.hop(0);
+        x.hop(1);
+        x.change(0, 0, 3);
+        x.forget();
+        Due.same("9: forgotten", x.count(12), 0);
+        Due.same("9: begins anew", x.hop(0), 0);
+        Due.same("9: with own as it is", x.known(0, 0, 0), 333);
     }
 
     private static void p10Letter() {
@@ -390,6 +415,32 @@ public final class ChangesTest {
         w.lose(0, 2);
         Due.same("11: lost ones that tell nothing new are quiet", w.rounds(9), 1);
         Due.same("11: but lost", w.count(11), 2);
+        quietness();
+    }
+
+    /** Another AHEAD, BEHIND or TOLD alone is enough for a round not to be quiet. */
+    private static void quietness() {
+        FairRates x = new FairRates();
+        x.link(0, 10);
+        x.come(1, 1, 1, 0, 100);
+        x.rounds(9);
+        x.link(0, 20);
+        Due.same("11: told alone", x.rounds(9), 2);
+        x.change(0, 2, 90);
+        Due.same("11: ahead alone", x.rounds(9), 2);
+        FairRates y = new FairRates();
+        y.link(0, 10);
+        y.link(1, 40);
+        y.come(1, 3, 1, 0, 100);
+        y.come(2, 2, 1, 0, 100);
+        y.rounds(9);
+        y.hold(1, true);
+        y.link(1, 50);
+        Due.same("11: behind alone", y.rounds(9), 2);
+        Due.same("11: behind", y.known(0, 0, 1), 40);
+        y.lose(0, 1);
+        y.change(0, 2, 99);
+        Due.same("11: ahead where it is lost", y.rounds(9), 2);
     }
 
     private static void p12Forget() {
@@ -481,6 +532,31 @@ public final class ChangesTest {
         Due.yes("14: as often as one likes", x.again(1));
         Due.same("14: the letter goes on again", x.hop(0), 51);
         Due.same("14: and so the lost", x.count(11), 2);
+        Due.yes("14: kept under 0", x.keep(0));
+        Due.yes("14: again from 0", x.again(0));
+        lettersUnderWay();
+    }
+
+    private static void lettersUnderWay() {
+        FairRates x = Nets.three();
+        x.link(5, 7);
+        x.route(0, 35);
+        x.hop(0);
+        x.keep(0);
+        x.hop(0);
+        x.hop(0);
+        x.hop(0);
+        x.keep(1);
+        x.hop(0);
+        Due.yes("14: under way forth", x.again(0));
+        Due.same("14: next link forth", x.hop(0), 1);
+        Due.same("14: with what it bore", x.known(0, 1, 0), 50);
+        Due.yes("14: under way back", x.again(1));
+        Due.same("14: next link back", x.hop(0), 21);
+        Due.same("14: with what it bore back", x.known(0, 1, 1), 7);
+        Due.same("14: told", x.flow(0, 7), 7);
+        x.again(0);
+        Due.same("14: told before", x.flow(0, 7), 0);
     }
 
     public static void main(String[] args) {

@@ -150,6 +150,11 @@ public final class FairTest {
         Due.none("20: what -1", x.water(-1));
         FairRates z = Nets.full();
         row("20: twenty", new int[] {z.water(0), z.water(1), z.water(2), z.water(3)}, 1, 5, 5, 100);
+        FairRates w = pair(12);
+        row("20: the first has most", new int[] {w.water(0), w.water(1), w.water(2), w.water(3)}, 2, 5, 7, 12);
+        w.go(0);
+        w.go(1);
+        row("20: all are gone", new int[] {w.water(0), w.water(1), w.water(2), w.water(3)}, 0, -1, -1, 0);
     }
 
     private static void p21Step() {
@@ -171,7 +176,13 @@ public final class FairTest {
         Due.same("21: all at once", y.step(0, 1), 3);
         x.go(5);
         Due.none("21: one step less", x.step(3, 0));
-        Due.same("21: links whose flows are fixed do not count", x.step(1, 2), 2);
+        Due.same("21: not the links of later ones", x.step(1, 2), 2);
+        FairRates z = new FairRates();
+        z.link(0, 10);
+        z.link(1, 10);
+        z.come(1, 1, 1, 0, 5);
+        z.come(2, 2, 1, 0, 50);
+        Due.same("21: links whose flows are fixed do not count", z.step(1, 2), 2);
     }
 
     private static void p22Ranked() {
@@ -209,6 +220,8 @@ public final class FairTest {
         Due.same("24: what goes to the flows leaves nothing", x.fullest(0), 0);
         x.change(1, 2, 60);
         Due.same("24: what is left counts", x.fullest(2), 0);
+        x.link(1, 60);
+        row("24: then by number", new int[] {x.fullest(0), x.fullest(1), x.fullest(2), x.fullest(3)}, 1, 2, 0, 3);
     }
 
     private static void p25Even() {
@@ -222,6 +235,10 @@ public final class FairTest {
         y.link(0, 1_000_000);
         y.link(1, 1);
         y.come(1, 2, 1, 0, 0);
+        y.come(9, 1, 1, 0, 1);
+        Due.same("25: one has 1, upper", y.even(0), 1);
+        Due.same("25: one has 1, lower", y.even(1), 2);
+        y.go(1);
         Due.none("25: all are 0, upper", y.even(0));
         Due.none("25: all are 0, lower", y.even(1));
         y.change(0, 2, 1);

@@ -64,6 +64,10 @@ public final class LettersTest {
         x.change(2, 2, 30);
         x.letter(2);
         Due.same("27: two marks at once", x.pass(0, 1), 60);
+        FairRates y = bound();
+        y.link(0, 90);
+        Due.same("27: as much elsewhere is no mark", y.pass(0, -1), 2);
+        Due.same("27: as much elsewhere", y.pass(0, 1), 40);
         Due.same("27: all marked", x.pass(0, 2), 1_000_000);
         Due.same("27: all marked, passes", x.pass(0, -1), 3);
         Due.same("27: none marked", Nets.three().pass(0, -1), 1);
@@ -169,6 +173,9 @@ public final class LettersTest {
         Due.same("32: least, as the first was lost", x.swings(0, 3, 2), 0);
         Due.same("32: only the first", x.swings(0, 1, 0), 0);
         Due.same("32: only the first, greatest", x.swings(0, 1, 1), 0);
+        Due.same("32: the first of another one", x.swings(1, 1, 0), 1);
+        Due.same("32: the first of another one, greatest", x.swings(1, 1, 1), 50);
+        Due.same("32: the first of another one, least", x.swings(1, 1, 2), 50);
         Due.same("32: sixty", x.swings(1, 60, 0), 2);
         Due.same("32: sixty, greatest", x.swings(1, 60, 1), 80);
         Due.same("32: sixty, least", x.swings(1, 60, 2), 50);

@@ -74,6 +74,9 @@ public final class WouldTest {
         Due.same("38: 46, where 9 would give less than 8", x.weightFor(0, 46), 8);
         Due.same("38: 48", x.weightFor(0, 48), 8);
         Due.none("38: 49", x.weightFor(0, 49));
+        x.link(1, 110);
+        Due.same("38: only by 9", x.weightFor(2, 97), 9);
+        x.link(1, 60);
         Due.same("38: the least, not its own", x.weightFor(2, 30), 1);
         Due.same("38: 0", x.weightFor(0, 0), 1);
         Due.same("38: below 0", x.weightFor(0, MIN), 1);
@@ -107,6 +110,8 @@ public final class WouldTest {
         Due.same("40: link 1", x.touched(1), 7);
         x.link(1, 62);
         Due.same("40: a link with some left", x.touched(1), 0);
+        x.link(1, 61);
+        Due.same("40: a link with 1 left", x.touched(1), 0);
         Due.none("40: an empty link", x.touched(2));
         x.link(2, 1);
         Due.same("40: no flows", x.touched(2), 0);
@@ -155,6 +160,8 @@ public final class WouldTest {
         y.link(0, 999_990);
         y.come(1, 1, 1, 0, 1_000_000);
         Due.same("42: no more than 1,000,000", y.wider(0, 500, 0), 10);
+        y.come(2, 1, 1, 0, 1_000_000);
+        Due.same("42: no more than 1,000,000 for both", y.wider(0, 500, 0), 5);
         FairRates z = new FairRates();
         z.link(0, 10);
         z.link(1, 10);
@@ -203,6 +210,19 @@ public final class WouldTest {
         }
         Due.none("43: 100 are too few", w.tight());
         Due.same("43: nothing changed", w.links(6, 0), 0);
+        FairRates v = new FairRates();
+        v.link(0, 0);
+        for (int n = 0; n < 11; n++) {
+            v.come(n, 1, 9, 0, 1000);
+        }
+        v.come(11, 1, 1, 0, 1000);
+        Due.same("43: just 100 more", v.tight(), 0);
+        v.change(11, 0, 2);
+        Due.none("43: 101 would be", v.tight());
+        v.link(0, 1);
+        Due.same("43: now 100 are", v.tight(), 0);
+        v.change(11, 0, 3);
+        Due.none("43: now 102 would be", v.tight());
     }
 
     private static void p44Enough() {
@@ -235,6 +255,8 @@ public final class WouldTest {
         FairRates x = new FairRates();
         Due.same("45: none goes where none is, quiet", x.storm(0, 1, 0), 1);
         Due.same("45: none goes where none is, flows", x.storm(0, 1, 2), 0);
+        Due.same("45: one comes over empty links", x.storm(1, 1, 2), 1);
+        Due.same("45: without a least", x.storm(1, 1, 1), 0);
         x.link(2, 40);
         x.link(9, 50);
         Due.same("45: one comes, not quiet", x.storm(1, 1, 0), 0);
@@ -243,6 +265,9 @@ public final class WouldTest {
         Due.same("45: on paper only", x.count(0) + x.count(3) + x.count(4), 0);
         x.come(845_447, 1, 1, 0, 10);
         Due.same("45: its name is taken", x.storm(1, 1, 2), 1);
+        Due.same("45: name 1 by a draw of 1,000,001", x.storm(638_961, 1, 2), 2);
+        x.come(1, 1, 1, 0, 10);
+        Due.same("45: that is taken, too", x.storm(638_961, 1, 2), 2);
         Due.same("45: no room", Nets.full().storm(1, 1, 2), 20);
         FairRates y = Nets.three();
         Due.same("45: one goes", y.storm(0, 1, 2), 2);
