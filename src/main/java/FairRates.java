@@ -939,13 +939,14 @@ public final class FairRates {
          * rates together are a straight line.
          */
         int greatestLevel(int link, int[] limit) {
+            int on = crowd[link];
             int t = 0;
             for (int piece = 0; piece <= 2 * FLOWS && t < TOP; piece++) {
                 int sum = 0;
                 int slope = 0;
                 int next = TOP;
                 for (int f = 0; f < FLOWS; f++) {
-                    if ((crowd[link] >> f & 1) == 0) {
+                    if ((on >> f & 1) == 0) {
                         continue;
                     }
                     int start = byWeight(f, least[f]);
@@ -1250,7 +1251,9 @@ public final class FairRates {
             }
             if (offer[link] == UNKNOWN) {
                 for (int f = 0; f < FLOWS; f++) {
-                    limit[f] = elsewhere(f, link);
+                    if (plan.goesOver(f, link)) {
+                        limit[f] = elsewhere(f, link);
+                    }
                 }
                 offer[link] = plan.greatestLevel(link, limit);
             }
