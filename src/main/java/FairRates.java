@@ -32,6 +32,8 @@ public final class FairRates {
     private static final int MOST_ROUNDS_ON_PAPER = 60;
     private static final int MOST_IN_STORM = 40;
     private static final int MORE_WHERE_TIGHT = 100;
+    /** More than enough to halve every stretch of capacities down to one. */
+    private static final int MOST_HALVINGS = 32;
     private static final int NO_ANSWER = Integer.MIN_VALUE;
 
     private final Post post = new Post();
@@ -420,7 +422,7 @@ public final class FairRates {
         paper.copy(post);
         int turns = 0;
         int greatest = 0;
-        int least = Integer.MAX_VALUE;
+        int least = TOP;
         for (int i = 0; i < n; i++) {
             int before = paper.told[flow];
             paper.goRound();
@@ -567,7 +569,7 @@ public final class FairRates {
         int low = plan.boundOf(link);
         int high = plan.capacity[link];
         Plan sheet = newSheet();
-        for (int i = 0; i < Integer.SIZE && low < high; i++) {
+        for (int i = 0; i < MOST_HALVINGS && low < high; i++) {
             int middle = (low + high) / 2;
             sheet.setCapacity(link, middle);
             if (otherLevels() == 0) {

@@ -17,6 +17,14 @@ final class Due {
         }
     }
 
+    static void text(String call, String got, String want) {
+        checks++;
+        if (!got.equals(want)) {
+            wrong++;
+            System.out.println(call + " answered " + got + ", due is " + want);
+        }
+    }
+
     static void yes(String call, boolean got) {
         same(call, got ? 1 : 0, 1);
     }
