@@ -259,6 +259,23 @@ public final class EdgesOfAnswersTest {
             letter(1); advertised(0)   -> 1000000
             refused                    -> 0*5
             """);
+        StringBuilder bent = new StringBuilder("link(0, 1000000)\n");
+        for (int f = 0; f < 20; f++) {
+            bent.append("come(" + f + ", 1, 1, " + (10 + 10 * f) + ", " + (1000 + 10 * f) + ")\n");
+        }
+        Script.promise(26, "twenty FLOWS, each with a LEAST and an ELSEWHERE of its own", bent + """
+            letter(0..19)
+            link(0, 21900); advertised(0) -> 1000000 // just what they have elsewhere
+            link(0, 21899); advertised(0) -> 1189
+            link(0, 21890); advertised(0) -> 1180
+            link(0, 21889); advertised(0) -> 1179
+            link(0, 21888); advertised(0) -> 1179
+            link(0, 2100); advertised(0)  -> 10      // just LEAST of all
+            link(0, 2101); advertised(0)  -> 11
+            link(0, 2110); advertised(0)  -> 20
+            link(0, 2111); advertised(0)  -> 20
+            link(0, 2112); advertised(0)  -> 21
+            """);
         Script.promise(26, "twenty FLOWS of WEIGHT 9", """
             link(0, 179); come(0..19, 1, 9, 0, 1000); advertised(0) -> 0
             link(0, 180); advertised(0) -> 1
@@ -274,6 +291,16 @@ public final class EdgesOfAnswersTest {
             pass(0, NONE)              -> 10
             pass(0, 0..9)              -> 111111 124999 126984 127314 127381 127397 127403 127406 127410 1000000
             pass(0, 10)                -> NONE
+            """);
+        StringBuilder one = new StringBuilder("link(0, 371); come(0, 1, 1, 0, 9); come(1, 1, 1, 0, 10)\n");
+        for (int f = 2; f < 20; f++) {
+            one.append("come(F, 1, 1, L, L)\n".replace("F", "" + f).replace("L", "" + (9 + f)));
+        }
+        Script.promise(27, "as many PASSES as there can be: twenty FLOWS, one new mark by each", one + """
+            letter(0..19)
+            pass(0, NONE)              -> 21
+            pass(0, 0..20)             -> 10..29 1000000
+            pass(0, 21)                -> NONE
             """);
         Script.promise(27, "no FLOWS: 1,000,000", """
             pass(0, NONE)              -> 1
@@ -347,7 +374,31 @@ public final class EdgesOfAnswersTest {
             """);
     }
 
+    /** What rounds one by one give is what settling() tells of them. */
+    private static void settlingByRounds(int lost) {
+        FairRates x = new FairRates();
+        Script.calls(x, LATE);
+        x.lose(0, lost);
+        int[] due = {x.settling(0), x.settling(1), x.settling(2)};
+        int overbooked = 0;
+        int done = 0;
+        boolean isQuiet = false;
+        while (done < 60 && !isQuiet) {
+            isQuiet = x.settling(0) == 1;
+            x.rounds(1);
+            overbooked += x.over() != 0 ? 1 : 0;
+            done++;
+        }
+        Due.same("31: rounds, with LOST " + lost, due[0], isQuiet ? done : 61);
+        Due.same("31: OVERBOOKED ones of those that there were, with LOST " + lost, due[1], overbooked);
+        Due.same("31: FAIR behind those that there were, with LOST " + lost, due[2], x.off() == 0 ? 1 : 0);
+        Due.same("31: ROUNDS, with LOST " + lost, x.count(4), done);
+    }
+
     private static void p31Settling() {
+        for (int lost : new int[] {0, 1, 56, 57, 58, 99}) {
+            settlingByRounds(lost);
+        }
         Script.promise(31, "how many till one is QUIET, that too (60 at most; 61: not by so many)", LATE + """
             settling(0)                -> 3
             lose(0, 57); settling(0)   -> 60

@@ -475,6 +475,17 @@ public final class EdgesOfTermsTest {
             """);
     }
 
+    private static void wholeLife() {
+        Script.terms("An object is used for at most 512 calls: the last of them answers as all do", """
+            link(0, 9); come(1, 1, 1, 0, 8); lose(0..4, 0..99); rounds(1); hop(0); hold(0, true); go(1); keep(0)
+            letter(0)                  -> 0       // the 508th; LOST
+            count(3)                   -> 3
+            count(13)                  -> 492
+            again(0)                   -> true
+            count(13)                  -> 493     // the 512th
+            """);
+    }
+
     private static void inFull() {
         Script.terms("Without FLOWS, or with all HELD, a ROUND is QUIET: rounds() tells 1", """
             rounds(1 30)               -> 1 1
@@ -520,6 +531,7 @@ public final class EdgesOfTermsTest {
         routedAndBooked();
         reasons();
         inFull();
+        wholeLife();
         Due.end();
     }
 }

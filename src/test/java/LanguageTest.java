@@ -31,7 +31,9 @@ public final class LanguageTest {
 
     private static final String[] NOT_ALLOWED = {"->", "::", "\\btry\\b", "\\bcatch\\b", "\\bfinally\\b",
         "\\bsynchronized\\b", "\\bassert\\b", "\\binstanceof\\b", "Exact\\b", "\\bdouble\\b", "\\bfloat\\b",
-        "\\bpackage\\b", "\\bthread", "\\bSystem\\.(?!arraycopy)", "\\bstatic \\{"};
+        "\\bpackage\\b", "\\bthread", "\\bSystem\\.(?!arraycopy)", "\\bstatic \\{",
+        "\\bInteger\\.(?!bitCount\\(|numberOfTrailingZeros\\(|MIN_VALUE)", "\\bLong\\.", "\\bMath\\.(?!min\\(|max\\(|abs\\()",
+        "\\bArrays\\.(?!fill\\()"};
 
     private LanguageTest() {
     }

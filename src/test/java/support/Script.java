@@ -53,6 +53,15 @@ final class Script {
         }
     }
 
+    /** Calls an object that a test has made; what its calls answer is not looked at. */
+    static void calls(FairRates object, String text) {
+        Script script = new Script(FairRates.class, "calls");
+        script.object = object;
+        for (String line : text.split("\n")) {
+            script.line(line.trim());
+        }
+    }
+
     /** Whether each promise from one to another one has had a run. */
     static void allHadRuns(int from, int to) {
         for (int n = from; n <= to; n++) {
