@@ -145,6 +145,10 @@ public final class EdgesOfAnswersTest {
         Script.promise(20, "twenty STEPS", twentyWants(false) + """
             water(0..3)                -> 20 10 200 2100
             """);
+        Script.promise(20, "the least and the greatest are neither the first nor the last FLOW's", """
+            link(0, 100); come(1, 1, 1, 0, 3); come(2, 1, 1, 0, 4); come(3, 1, 1, 0, 2); come(4, 1, 1, 0, 3)
+            water(0..3)                -> 3 2 4 12
+            """);
     }
 
     private static void p21Step() {
@@ -174,6 +178,11 @@ public final class EdgesOfAnswersTest {
             ranked(20 -1 MIN MAX)      -> NONE*4
             link(0, 0); ranked(0..19)  -> 0..19   // all alike
             go(0); ranked(0 18 19)     -> 1 19 NONE
+            """);
+        Script.promise(22, "LEVELS that differ by 1", """
+            link(0, 100); come(1, 1, 1, 0, 6); come(2, 1, 1, 0, 5); come(3, 1, 1, 0, 6); come(4, 1, 1, 0, 7)
+            ranked(0..4)               -> 1 0 2 3 NONE
+            change(3, 2, 4); ranked(0..4) -> 3 1 0 2 NONE
             """);
     }
 
@@ -275,6 +284,16 @@ public final class EdgesOfAnswersTest {
             link(0, 2110); advertised(0)  -> 20
             link(0, 2111); advertised(0)  -> 20
             link(0, 2112); advertised(0)  -> 21
+            """);
+        Script.promise(26, "just below 1,000,000", """
+            link(0, 1000000); come(1, 1, 1, 0, 999999); letter(0); advertised(0) -> 1000000
+            link(0, 999999); advertised(0) -> 1000000
+            link(0, 999998); advertised(0) -> 999998
+            new
+            link(0, 999999); come(1, 1, 1, 999999, 1000000); advertised(0) -> 999999
+            fair(0, 0..2)              -> 999999 999999 0
+            link(0, 1000000); advertised(0) -> 1000000
+            fair(0, 0..2)              -> 1000000 1000000 0
             """);
         Script.promise(26, "twenty FLOWS of WEIGHT 9", """
             link(0, 179); come(0..19, 1, 9, 0, 1000); advertised(0) -> 0
@@ -446,6 +465,10 @@ public final class EdgesOfAnswersTest {
             """);
         Script.promise(32, "the first and the last of all that there can be", """
             link(0, 100); come(0..19, 1, 1, 0, 5); swings(0 19, 1, 1) -> 5 5
+            """);
+        Script.promise(32, "the greatest TOLD, the least: 1,000,000 and 0", """
+            link(0, 1000000); come(1, 1, 1, 0, 1000000); swings(0, 1 60, 1..2) -> 1000000*4
+            rounds(30); link(0, 0); swings(0, 1, 0..2) -> 1 0 0
             """);
     }
 

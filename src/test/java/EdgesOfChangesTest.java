@@ -274,6 +274,15 @@ public final class EdgesOfChangesTest {
             link(0, 4)                 -> 9
             route(0, 1)                -> 0       // what it keeps is bound as it is
             """);
+        Script.promise(7, "the first and the last LINK, left and taken again", """
+            link(0..9, 9); come(1, 513, 1, 0, 8); letter(0); known(0, 0 9, 0) -> 8 8
+            route(0, 16)               -> 1
+            known(0, 0 4 9, 0)         -> NONE 1000000 NONE
+            route(0, 513)              -> 2
+            known(0, 0 9, 0)           -> 1000000*2
+            advertised(0 4 9)          -> 9 1000000 9
+            flow(0, 7)                 -> 8
+            """);
         Script.promise(7, "a REFUSED one leaves the LETTER UNDER WAY, AHEAD, BEHIND", """
             link(0..1, 9); come(1, 3, 1, 0, 8); letter(0); hop(0)
             route(0, 3); route(0, 0); route(0, 1024)
@@ -398,6 +407,12 @@ public final class EdgesOfChangesTest {
             forget()                   -> 20      // again is not REFUSED
             refused                    -> 0*5
             """);
+        Script.promise(12, "what LINKS ADVERTISE is as at first", """
+            link(0..1, 9); come(1..2, 3, 1, 0, 2); advertised(0..1) -> 4 4
+            rounds(2); advertised(0..1) -> 1000000*2
+            forget(); advertised(0..1) -> 4 4
+            count(5)                   -> 0
+            """);
     }
 
     private static void p13Keep() {
@@ -453,6 +468,16 @@ public final class EdgesOfChangesTest {
             count(3..4)                -> 2 1
             count(11)                  -> 1
             refused                    -> 0 2 1 0 0
+            """);
+        Script.promise(14, "a LETTER UNDER WAY is where it was, with what it bore", """
+            link(0..2, 9); come(1, 7, 1, 0, 8); hop(0); keep(0); hop(0); hop(0); hop(0); link(2, 3); keep(1)
+            hop(0); hop(0); hop(0)     -> 0       // at rest, and one begins
+            again(0); hop(0)           -> 1       // forth
+            known(0, 0..2, 0)          -> 8 8 1000000
+            change(0, 2, 5); again(1); link(2, 4); hop(0) -> 21      // back
+            known(0, 1, 1)             -> 1000000
+            again(0); hop(0); hop(0); link(2, 3); hop(0); keep(0); link(2, 2); hop(0); again(0); hop(0) -> 21
+            known(0, 1, 1)             -> 3       // not 2, which LINK 2 ADVERTISES later
             """);
         Script.promise(14, "as often as one likes, from no FLOWS to all and back", """
             keep(0); come(0..19, 1, 1, 0, 1); keep(1); again(0); count(0) -> 0
