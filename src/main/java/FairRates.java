@@ -34,7 +34,8 @@ public final class FairRates {
     private static final int MORE_WHERE_TIGHT = 100;
     /** More than enough to halve every stretch of capacities down to one. */
     private static final int MOST_HALVINGS = 32;
-    private static final int NO_ANSWER = Integer.MIN_VALUE;
+    /** The document's Integer.MIN_VALUE, where NONE could be an answer. */
+    private static final int NO_ANSWER = -2_147_483_648;
 
     private final Post post = new Post();
     private final Plan plan = post.plan;

@@ -32,7 +32,7 @@ public final class LanguageTest {
     private static final String[] NOT_ALLOWED = {"->", "::", "\\btry\\b", "\\bcatch\\b", "\\bfinally\\b",
         "\\bsynchronized\\b", "\\bassert\\b", "\\binstanceof\\b", "Exact\\b", "\\bdouble\\b", "\\bfloat\\b",
         "\\bpackage\\b", "\\bthread", "\\bSystem\\.(?!arraycopy)", "\\bstatic \\{",
-        "\\bInteger\\.(?!bitCount\\(|numberOfTrailingZeros\\(|MIN_VALUE)", "\\bLong\\.", "\\bMath\\.(?!min\\(|max\\(|abs\\()",
+        "\\bInteger\\.(?!bitCount\\(|numberOfTrailingZeros\\()", "\\bLong\\.", "\\bMath\\.(?!min\\(|max\\(|abs\\()",
         "\\bArrays\\.(?!fill\\()"};
 
     private LanguageTest() {
@@ -50,6 +50,22 @@ public final class LanguageTest {
             text.append(" throws ").append(c.getSimpleName());
         }
         return text.toString();
+    }
+
+    /** FACE is the document's, word by word. */
+    private static void faceOfDocument() {
+        Pattern call = Pattern.compile("public (\\w+ \\w+)\\(([^)]*)\\)( throws \\w+)?;");
+        Set<String> due = new TreeSet<>();
+        for (String line : Document.lines("The public face")) {
+            Matcher m = call.matcher(line.trim());
+            if (m.matches()) {
+                String types = m.group(2).replaceAll("(\\w+) \\w+", "$1");
+                due.add(m.group(1) + "(" + types + ")" + (m.group(3) == null ? "" : m.group(3)));
+            }
+        }
+        if (!due.isEmpty()) {
+            Due.text("rule 1: the document's face", new TreeSet<>(Arrays.asList(FACE)).toString(), due.toString());
+        }
     }
 
     private static void face() {
@@ -150,6 +166,7 @@ public final class LanguageTest {
     }
 
     public static void main(String[] args) throws IOException {
+        faceOfDocument();
         face();
         insides(FairRates.class);
         String place = System.getProperty("fairrates.source", "src/main/java/FairRates.java");
