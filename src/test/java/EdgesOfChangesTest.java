@@ -479,6 +479,15 @@ public final class EdgesOfChangesTest {
             again(0); hop(0); hop(0); link(2, 3); hop(0); keep(0); link(2, 2); hop(0); again(0); hop(0) -> 21
             known(0, 1, 1)             -> 3       // not 2, which LINK 2 ADVERTISES later
             """);
+        Script.promise(14, "the last of twenty: its NAME, its LETTER UNDER WAY and what that bore", """
+            link(0, 50); link(9, 3); come(0..18, 1, 1, 0, 9); come(19, 513, 1, 0, 9); hop(19); keep(0)
+            hop(19); hop(19)           -> 29
+            go(19); come(77, 1, 1, 0, 9); hop(19) -> 0
+            again(0); flow(19, 0..1)   -> 19 513
+            named(19 77)               -> 19 NONE
+            hop(19)                    -> 9
+            known(19, 9, 0)            -> 2
+            """);
         Script.promise(14, "as often as one likes, from no FLOWS to all and back", """
             keep(0); come(0..19, 1, 1, 0, 1); keep(1); again(0); count(0) -> 0
             named(5)                   -> NONE

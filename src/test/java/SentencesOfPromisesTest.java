@@ -253,13 +253,16 @@ public final class SentencesOfPromisesTest {
 
         promise("Promise 14: again");
         Document.says("It is as it was kept;", NET + """
-            keep(0); go(4); rounds(30); keep(1); again(0); count(0 4) -> 5 0
+            keep(0); go(4); rounds(30); keep(1); again(0) -> true
+            count(0 4)                 -> 5 0
             fair(0, 0)                 -> 11
             again(1); count(0 4)       -> 4 3
             fair(0, 0)                 -> 12
             flow(0, 7)                 -> 12
             again(0); flow(0, 7)       -> 0
             advertised(0)              -> 10
+            hop(0); keep(0); hop(0); hop(0); again(0); hop(0) -> 1
+            known(0, 0..1, 0)          -> 500 10
             """);
         Document.says("false: others, nothing kept.", """
             link(0, 9); again(0..1)    -> false*2
@@ -340,6 +343,7 @@ public final class SentencesOfPromisesTest {
         Document.says("FAIR: how many STEPS (what 0), the least LEVEL (1), the greatest (2; NONE both without FLOWS), all RATES "
             + "together (3).", "water(0..3) -> 0 NONE NONE 0\n" + NET + """
             water(0..3)                -> 4 7 15 99
+            route(0, 512); link(9, 80); water(1..2) -> 7 80
             """);
         Document.says("NONE: others.", NET + """
             water(-1 4)                -> NONE*2
@@ -361,6 +365,8 @@ public final class SentencesOfPromisesTest {
         promise("Promise 22: ranked");
         Document.says("FAIR: the k-th FLOW (0 on) by LEVEL, then number.", NET + """
             ranked(0..4)               -> 4 0 1 2 3
+            new
+            link(0, 90); come(1, 1, 1, 0, 6); come(2, 1, 1, 0, 5); come(3, 1, 1, 0, 6); ranked(0..2) -> 1 0 2
             """);
         Document.says("NONE.", "ranked(0) -> NONE\n" + NET + """
             ranked(-1 5)               -> NONE*2
@@ -619,7 +625,8 @@ public final class SentencesOfPromisesTest {
 
         promise("Promise 39: roomFor");
         Document.says("The greatest LEAST (and WANT) with which a FLOW over LINKS could come now.", NET + """
-            roomFor(3 4 8 1023)        -> 15 80 7 0
+            roomFor(1 3 4 8 1023)      -> 40 15 80 7 0
+            link(9, 30); roomFor(513)  -> 30
             come(9, 3, 1, 16, 16)      -> NONE
             come(9, 3, 1, 15, 15)      -> 5
             """);
@@ -631,6 +638,8 @@ public final class SentencesOfPromisesTest {
         promise("Promise 40: touched");
         Document.says("FLOWS (bits) whose LEVEL by FAIR would be another one, were CAPACITY of a LINK 1 less.", NET + """
             touched(0..3)              -> 7 4 0 16
+            link(0, 41); touched(0)    -> 0       // 40 would do
+            link(0, 40)
             links(0..3, 0)             -> 40 25 90 7
             """);
         Document.says("NONE: it is its BOUND, others.", NET + """
@@ -671,6 +680,10 @@ public final class SentencesOfPromisesTest {
             route(4, 1); tight()       -> 0
             new
             link(6, 999950); come(1..2, 64, 1, 0, 1000000); tight() -> 6
+            new
+            come(0..10, 512, 9, 0, 99); come(11, 512, 1, 0, 99); tight() -> 9   // WEIGHTS are 100 together,
+            change(11, 0, 2); tight()  -> NONE    // and 101
+            link(9, 1); tight()        -> 9
             """);
         Document.says("NONE: no FLOWS, none makes it more.", "tight() -> NONE\n" + NET + """
             link(0, 28); tight()       -> NONE    // LINKS 0 and 3 have 7 both
@@ -705,12 +718,16 @@ public final class SentencesOfPromisesTest {
         Document.says("0: a FLOW comes (four DRAWS in this order: NAME is it modulo 1,000,000, LINKS 1 more than it modulo 1,023, "
             + "WEIGHT 1 more than it modulo 9, WANT it modulo 1,000; LEAST 0), if come() would let it;", """
             storm(1, 1, 2)             -> 1       // NAME 845,447, LINKS 516, WEIGHT 7, WANT 46: CAPACITY is 0, as is LEAST
-            link(2, 50); link(9, 45); come(1, 4, 1, 0, 8); letter(0); hold(0, true); storm(1, 1, 1) -> 0
+            link(2, 56); link(9, 100); come(1, 4, 1, 0, 8); letter(0); hold(0, true); storm(1, 1, 1) -> 0
+            link(2, 50); storm(1, 1, 1) -> 0
             link(2, 49); storm(1, 1, 1) -> 1      // 8 and 7 times 6 are above 49,
             link(9, 41); storm(1, 1, 1) -> 0      // 8 and 7 times 5 are not
             come(845447, 1, 1, 0, 8); storm(1, 1, 2) -> 2
             go(1); storm(1, 1, 2)      -> 2
             come(100..118, 1, 1, 0, 8); storm(1, 1, 2) -> 20
+            new
+            come(0, 1, 1, 0, 9); storm(638961, 1, 2) -> 2    // 1,000,001 is NAME 1
+            come(1, 1, 1, 0, 9); storm(638961, 1, 2) -> 2
             """);
         Document.says("1: of the FLOWS, by their numbers, that of a DRAW modulo how many there are (from 0 on) goes, if there are "
             + "any;", """
@@ -749,6 +766,7 @@ public final class SentencesOfPromisesTest {
         Document.says("0 FLOWS, 1 HELD up ones, 2 LINKS with FLOWS,", NET + """
             hold(1 3, true); count(0..2) -> 5 2 4
             go(4); go(3); count(0..2)  -> 3 1 3
+            go(0); go(1); count(0..2)  -> 1 0 2
             """);
         Document.says("3 LETTERS so far (LOST ones, those by hop() when they begin, too), 4 ROUNDS so far,", NET + """
             rounds(30); count(3..4)    -> 15 3

@@ -146,6 +146,8 @@ public final class SentencesOfTermsTest {
             step(0, 1..2)              -> 3 1
             link(1, 1000000); come(3, 2, 1, 0, 1000000); step(1, 0..2) -> 1000000 4 2
             link(1, 999999); step(1, 0..2) -> 999999 4 2
+            new
+            link(0, 30); come(1, 1, 1, 10, 90); come(2, 1, 1, 12, 90); come(3, 1, 1, 0, 90); step(0, 0..2) -> 8 7 1
             """);
         Document.says("The least of all TIDES, and of OWN of all FLOWS that are not FIXED, is the STEP's LEVEL; FIXED by it "
             + "are all FLOWS that are not yet, of LINKS with that TIDE, and those with that OWN.", """
@@ -199,6 +201,8 @@ public final class SentencesOfTermsTest {
             link(0, 29); advertised(0) -> 5
             link(0, 9); advertised(0)  -> 1       // 2, 1 and LEAST, 4
             link(0, 4); advertised(0)  -> 0
+            new
+            link(0, 30); come(1, 1, 1, 10, 90); come(2, 1, 1, 12, 90); come(3, 1, 1, 0, 90); advertised(0) -> 8
             """);
         Document.says("A FLOW is MARKED at a LINK, if its ELSEWHERE there is less than what that ADVERTISES.", """
             link(0, 30); link(1, 6); come(1, 3, 2, 0, 100); come(2, 1, 1, 0, 100); come(3, 1, 3, 4, 100); letter(0)
